@@ -689,15 +689,15 @@ public final class DanceStillOwed {
         }
 
         boolean will(int one, int other) {
-            boolean yes = value(WILLS, one, owing(one, other)) != 0;
-            boolean asMother = yes && owing(other, one) > 0;
+            int owing = owing(one, other);
+            boolean owed = owing(other, one) > 0;
             switch (kind[one]) {
                 case OFFICER: return true;
-                case MOTHER: return asMother;
+                case MOTHER: return owed && value(WILLS, one, owing) != 0;
                 case LAMB: return done[one] != number[one];
-                case WALLFLOWER: return asMother || owedTo(one) == 0;
+                case WALLFLOWER: return owedTo(one) == 0 || owed && value(WILLS, one, owing) != 0;
                 case BAND: return false;
-                default: return yes;
+                default: return value(WILLS, one, owing) != 0;
             }
         }
 
@@ -1036,6 +1036,8 @@ public final class DanceStillOwed {
         int size;
         private final int[] code = new int[TAPE_SIZE];
         private int used;
+        /** Where in the code each part ends. */
+        private final int[] ends = new int[BREATH + 1];
         private int at;
         /** The TOKEN ahead: a sign by its letter, a KEY, a name by its code, or one of the above. */
         private int token;
@@ -1058,7 +1060,6 @@ public final class DanceStillOwed {
             used = 0;
             at = 0;
             open = 0;
-            int[] ends = new int[3];
             next();
             boolean fine = true;
             for (int part = PAYS; part <= BREATH && fine; part++) {
@@ -1072,7 +1073,7 @@ public final class DanceStillOwed {
             }
             int[] own = new int[used];
             System.arraycopy(code, 0, own, 0, used);
-            return new Text(own, ends);
+            return new Text(own, ends.clone());
         }
 
         private boolean pass(int due) {

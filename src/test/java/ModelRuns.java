@@ -48,9 +48,57 @@ public final class ModelRuns {
                 if (!feedText(randomText())) return false;
                 continue;
             }
+            int scene = random.nextInt(60);
+            if (scene == 0 && !fewDebts() || scene == 1 && !ring() || scene == 2 && !retold()) return false;
             int op = pick();
             if (!call(op, arguments(op))) return false;
         }
+        return true;
+    }
+
+    /** A fresh night with a few small DEBTS, and all that is BEST of it. */
+    private boolean fewDebts() {
+        int n = model.now.ones.size();
+        for (int a = 0; a < n; a++) for (int b = 0; b < n; b++) if (a != b && model.now.debt(a, b) > 0)
+            if (!call(0, 4, 10 * a + b, 0)) return false;
+        if (!call(9)) return false;
+        for (int k = random.nextInt(5); k >= 0; k--) if (n > 1) {
+            int a = random.nextInt(n), b = (a + 1 + random.nextInt(n - 1)) % n;
+            if (!call(0, 4, 10 * a + b, 1 + random.nextInt(3))) return false;
+        }
+        for (int what = 0; what < 9; what++) if (!call(12, what)) return false;
+        return call(8) && call(12, 4);
+    }
+
+    /** DEBTS round a ring, that are struck off. */
+    private boolean ring() {
+        int n = model.now.ones.size();
+        if (n < 2) return true;
+        List<Integer> l = new ArrayList<>();
+        for (int k = 0; k < n; k++) l.add(k);
+        java.util.Collections.shuffle(l, random);
+        l = l.subList(0, 2 + random.nextInt(n - 1));
+        int digits = 0;
+        for (int k = 0; k < l.size(); k++) {
+            if (!call(0, 4, 10 * l.get(k) + l.get((k + 1) % l.size()), random.nextInt(9) + random.nextInt(2))) return false;
+            digits = digits * 10 + l.get(k) + 1;
+        }
+        return call(12, 5) && call(12, 6) && call(10, digits) && call(20, 1) && call(12, 6);
+    }
+
+    /** What was filmed is read back behind some change. */
+    private boolean retold() {
+        int n = model.now.ones.size();
+        if (n < 2) return true;
+        int a = random.nextInt(n), b = (a + 1 + random.nextInt(n - 1)) % n;
+        int sheet = random.nextInt(4);
+        int cells = 2 + random.nextInt(8);
+        if (!call(15, sheet, a, b, cells)) return false;
+        if (random.nextInt(4) == 0 && !call(22, sheet, random.nextInt(cells), random.nextInt(cells))) return false;
+        int change = random.nextInt(6);
+        if (change < 4 && !call(0, change, a, random.nextInt(10))) return false;
+        if (change == 4 && !call(6, random.nextInt(model.texts.size()))) return false;
+        for (int what = 0; what < 9; what++) if (!call(14, sheet, a, b, what)) return false;
         return true;
     }
 

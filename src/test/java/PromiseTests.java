@@ -387,13 +387,20 @@ public final class PromiseTests {
         due("7 the tape stays", x.count(4), 24);
         due("7 texts", x.count(3), 6);
         StringBuilder s = new StringBuilder("pays 1");
-        while (s.length() < 160 - 18) {
+        while (s.length() < 160 - 20) {
             s.append("+1");
         }
         DanceStillOwed y = owing(of(0, DANCER, DANCER), 1, 99);
         due("7 as long as can be", text(y, s + ";wills 1;breath 4;"), 1);
         y.force(1);
-        due("7 and its value", y.asks(0, 1, 0), 69);
+        due("7 and its value", y.asks(0, 1, 0), 68);
+        for (int k = 2; k < 6; k++) {
+            due("7 as long as can be, again", text(y, s + "+0" + ";wills " + k % 2 + ";breath 4;"), k);
+        }
+        for (int k = 2; k < 6; k++) {
+            y.force(k);
+            due("7 each keeps its own", y.asks(0, 1, 0) * 10 + y.asks(0, 1, 1), 680 + k % 2);
+        }
     }
 
     private static void fault(String s, int place) {
