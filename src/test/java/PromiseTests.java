@@ -394,10 +394,10 @@ public final class PromiseTests {
         due("7 as long as can be", text(y, s + ";wills 1;breath 4;"), 1);
         y.force(1);
         due("7 and its value", y.asks(0, 1, 0), 68);
-        for (int k = 2; k < 6; k++) {
+        for (int k = 2; k < 4; k++) {
             due("7 as long as can be, again", text(y, s + "+0" + ";wills " + k % 2 + ";breath 4;"), k);
         }
-        for (int k = 2; k < 6; k++) {
+        for (int k = 2; k < 4; k++) {
             y.force(k);
             due("7 each keeps its own", y.asks(0, 1, 0) * 10 + y.asks(0, 1, 1), 680 + k % 2);
         }
