@@ -1,3 +1,6 @@
+import java.util.ArrayList;
+import java.util.List;
+
 /**
  * What the tests of edges share: the sentence of the document that is tested, what is due by it, and scenes in which
  * a refused call must leave everything as it is. Whatever is looked at is made anew, so that no object is used for
@@ -160,6 +163,32 @@ abstract class Edges {
         for (int k = 1; k < n; k++) {
             x.cell(sheet, k, k);
         }
+    }
+
+    /** All rings of 2 .. 5 of five DANCERS, from each of these on, as digits: 1 more than each. */
+    static List<Integer> rings() {
+        List<Integer> rings = new ArrayList<>();
+        for (int digits = 12; digits <= 54321; digits++) {
+            String s = "" + digits;
+            boolean is = true;
+            for (int k = 0; k < s.length(); k++) {
+                is = is && s.charAt(k) >= '1' && s.charAt(k) <= '5' && s.indexOf(s.charAt(k)) == k;
+            }
+            if (is) {
+                rings.add(digits);
+            }
+        }
+        return rings;
+    }
+
+    /** The DEBTS round a ring, each to the next one, the last to the first: how they are named. */
+    static int[] round(int ring) {
+        String s = "" + ring;
+        int[] debts = new int[s.length()];
+        for (int k = 0; k < debts.length; k++) {
+            debts[k] = 10 * (s.charAt(k) - '1') + s.charAt((k + 1) % debts.length) - '1';
+        }
+        return debts;
     }
 
     static int debt(DanceStillOwed x, int of) {

@@ -207,6 +207,15 @@ public final class EdgesBest extends Edges {
             due("a ring of " + n, owing(x, 10 * (n - 1), 1).best(6), n);
             due("of those who are last", owing(many(5, DANCER), 43, 1, 34, 1).best(6), 2);
         }
+        for (int ring : rings()) {
+            DanceStillOwed x = many(5, DANCER);
+            int[] round = round(ring);
+            for (int k = 0; k < round.length - 1; k++) {
+                owing(x, round[k], 1);
+            }
+            due("open: " + ring, x.best(6), 0);
+            due("closed: " + ring, owing(x, round[round.length - 1], 1).best(6), round.length);
+        }
         due("not by the least", owing(many(5, DANCER), 12, 1, 23, 1, 31, 1).best(6), 3);
         due("two rings of two", owing(many(5, DANCER), 1, 1, 10, 1, 23, 1, 32, 1).best(6), 2);
         due("a ring is gone over once", owing(many(3, DANCER), 1, 1, 10, 1, 12, 1, 21, 1).best(6), 2);

@@ -258,6 +258,15 @@ public final class EdgesRounds extends Edges {
             due("what is off others", 18 - debt(x, 10) - debt(x, 2), 0);
             due("it is broken", x.strike(12345), STATE);
         }
+        for (int ring : rings()) {
+            DanceStillOwed x = many(5, DANCER);
+            for (int of : round(ring)) {
+                owing(x, of, 3);
+            }
+            owing(x, round(ring)[1], 2);
+            due("ring " + ring, x.strike(ring), 2);
+            due("what is left of " + ring, x.count(1), round(ring).length - 1);
+        }
         DanceStillOwed y = owing(many(2, DANCER), 1, 99, 10, 99);
         due("99", y.strike(21), 99);
         due("nothing is left", y.count(1), 0);
